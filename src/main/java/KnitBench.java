@@ -999,22 +999,30 @@ public final class KnitBench {
         }
     }
 
-    /** A row told in the fewest words, and the text of it. */
+    /**
+     * A row told in the fewest words, and the text of it. A part of the row is told as pieces with
+     * commas between them, a piece being a stitch or a group: for were the first part of a best split
+     * split itself, that earlier split would take no more words, and come first.
+     */
     private static final class Shortest {
         private static final int MOST_GROUPS = 4;
         // 40 stitches that take loops, and 40 that take none but make one each.
         private static final int MOST_STITCHES = 2 * Fabric.MOST_LIVE;
+        private static final int MOST_PERIOD = MOST_STITCHES / 2;
         // A word with its comma has at most 6 bytes, and there are no more words than stitches.
         private static final int MOST_BYTES = 6 * MOST_STITCHES;
         // No group: more words than any part of a row can need.
         private static final int NEVER = 1000;
 
-        // Where the table's words of the parts within 0, 1, .. groups begin. A group tells its part
-        // at least twice: so within one more, parts are half as long at the most.
-        private static final int[] OFFSETS = {0, 6400, 9600, 11200, 12000};
-        private static final int TABLE_SIZE = 12400;
+        // Where the table's words of the parts within 0 .. 3 groups begin. A group tells its part at
+        // least twice, so within one more, parts are half as long at the most; within none only what
+        // is left of the row is asked for; within 4 there are but bare names.
+        private static final int[] OFFSETS = {0, 80, 3280, 4880};
+        private static final int TABLE_SIZE = 5680;
 
         private final int[] table = new int[TABLE_SIZE];
+        // Of each start and period, how many stitches are the same as those a period further on.
+        private final int[] sames = new int[MOST_STITCHES * MOST_PERIOD];
         private final int[] stitches = new int[MOST_STITCHES];
         private final int[] text = new int[MOST_BYTES];
         private int count;
@@ -1033,75 +1041,118 @@ public final class KnitBench {
             for (int i = 0; i < count; i++) {
                 stitches[i] = fabric.stitchAt(row, i);
             }
-            for (int groups = MOST_GROUPS; groups >= 0; groups--) {
-                countWords(groups);
+            for (int period = 1; period <= count / 2; period++) {
+                countSames(period);
             }
+            for (int groups = MOST_GROUPS - 1; groups >= 1; groups--) {
+                countWordsWithin(groups);
+            }
+            countWords(count, count, 0);
             length = 0;
             tellPart(0, count, 0);
             return words(0, count, 0);
         }
 
-        private void countWords(int groups) {
-            for (int n = 1; n <= count >> groups; n++) {
-                for (int start = 0; start + n <= count; start++) {
-                    int cell = cellOf(start, n, groups);
-                    if (cell >= 0) {
-                        table[cell] = fewestWords(start, n, groups);
-                    }
+        private void countSames(int period) {
+            int same = 0;
+            for (int start = count - 1; start >= 0; start--) {
+                boolean isSame = start + period < count && stitches[start] == stitches[start + period];
+                same = isSame ? same + 1 : 0;
+                sames[start * MOST_PERIOD + period - 1] = same;
+            }
+        }
+
+        /** How often the first q stitches stand one behind the other from the start on. */
+        private int timesInRow(int start, int q) {
+            if (start < 0 || start >= count || q < 1 || q > count / 2) {
+                return 1;
+            }
+            return 1 + sames[start * MOST_PERIOD + q - 1] / q;
+        }
+
+        /** Of the parts with the same end, those as long as one that comes again are asked for. */
+        private void countWordsWithin(int groups) {
+            for (int end = 1; end < count; end++) {
+                int longest = Math.min(end, count >> groups);
+                while (longest > 0 && timesInRow(end - longest, longest) < 2) {
+                    longest--;
+                }
+                countWords(end, longest, groups);
+            }
+        }
+
+        private void countWords(int end, int longest, int groups) {
+            for (int n = 1; n <= longest; n++) {
+                int cell = cellOf(end - n, n, groups);
+                if (cell >= 0) {
+                    table[cell] = fewestWords(end - n, n, groups);
                 }
             }
         }
 
         private static int cellOf(int start, int n, int groups) {
-            if (groups < 0 || groups > MOST_GROUPS || n < 1 || n > MOST_STITCHES >> groups) {
+            if (groups < 0 || groups >= MOST_GROUPS || n < 1 || n > MOST_STITCHES >> groups) {
                 return -1;
             }
             if (start < 0 || start + n > MOST_STITCHES) {
                 return -1;
             }
-            return OFFSETS[groups] + start * (MOST_STITCHES >> groups) + n - 1;
+            return groups == 0 ? start : OFFSETS[groups] + start * (MOST_STITCHES >> groups) + n - 1;
         }
 
         private int words(int start, int n, int groups) {
             int cell = cellOf(start, n, groups);
-            return cell < 0 ? NEVER : table[cell];
+            return cell < 0 ? n : table[cell];
         }
 
         private int fewestWords(int start, int n, int groups) {
-            int fewest = n;
+            int fewest = 1 + words(start + 1, n - 1, groups);
             for (int q = 1; q <= n / 2; q++) {
-                fewest = Math.min(fewest, groupWords(start, n, q, groups));
-            }
-            for (int q = 1; q < n; q++) {
-                fewest = Math.min(fewest, splitWords(start, n, q, groups));
+                int most = Math.min(timesInRow(start, q), n / q);
+                int group = most < 2 ? NEVER : 1 + words(start, q, groups + 1);
+                for (int times = 2; times <= most; times++) {
+                    fewest = Math.min(fewest, group + words(start + q * times, n - q * times, groups));
+                }
             }
             return fewest;
         }
 
-        private int groupWords(int start, int n, int q, int groups) {
-            if (groups >= MOST_GROUPS || q < 1 || n % q != 0 || !isRepeated(start, n, q)) {
-                return NEVER;
-            }
-            return words(start, q, groups + 1) + 1;
-        }
-
-        private int splitWords(int start, int n, int q, int groups) {
-            return words(start, q, groups) + words(start + q, n - q, groups);
-        }
-
-        private boolean isRepeated(int start, int n, int q) {
-            for (int i = start + q; i < start + n; i++) {
-                if (stitches[i] != stitches[i - q]) {
-                    return false;
+        /** How many stitches stand in the brackets when the part is told as one group; 0: it can't be. */
+        private int bestGroup(int start, int n, int groups) {
+            int best = 0;
+            int fewest = NEVER;
+            for (int q = 1; q <= n / 2 && groups < MOST_GROUPS; q++) {
+                boolean isGroup = n % q == 0 && timesInRow(start, q) >= n / q;
+                int inner = isGroup ? words(start, q, groups + 1) : NEVER;
+                if (inner < fewest) {
+                    best = q;
+                    fewest = inner;
                 }
             }
-            return true;
+            return best;
         }
 
-        /**
-         * The first part of a best split is a stitch or a group: were it split itself, that earlier
-         * split would take no more words, and come first.
-         */
+        private int pieceWords(int start, int n, int groups) {
+            if (n == 1) {
+                return 1;
+            }
+            int q = bestGroup(start, n, groups);
+            return q == 0 ? NEVER : 1 + words(start, q, groups + 1);
+        }
+
+        private int firstPiece(int start, int n, int groups) {
+            int fewest = words(start, n, groups);
+            if (pieceWords(start, n, groups) == fewest) {
+                return n;
+            }
+            for (int q = 1; q < n; q++) {
+                if (pieceWords(start, q, groups) + words(start + q, n - q, groups) == fewest) {
+                    return q;
+                }
+            }
+            return n;
+        }
+
         private void tellPart(int start, int n, int groups) {
             int at = start;
             int end = start + n;
@@ -1109,37 +1160,15 @@ public final class KnitBench {
                 if (at > start) {
                     put(',');
                 }
-                int first = firstPart(at, end - at, groups);
-                tellStitchOrGroup(at, first, groups);
-                at += first;
+                int piece = firstPiece(at, end - at, groups);
+                tellPiece(at, piece, groups);
+                at += piece;
             }
         }
 
-        private int firstPart(int start, int n, int groups) {
-            if (groupLength(start, n, groups) > 0) {
-                return n;
-            }
-            for (int q = 1; q < n; q++) {
-                if (splitWords(start, n, q, groups) == words(start, n, groups)) {
-                    return q;
-                }
-            }
-            return n;
-        }
-
-        /** How many stitches stand in the brackets when the part is best told as a group, or 0. */
-        private int groupLength(int start, int n, int groups) {
-            for (int q = 1; q <= n / 2; q++) {
-                if (groupWords(start, n, q, groups) == words(start, n, groups)) {
-                    return q;
-                }
-            }
-            return 0;
-        }
-
-        private void tellStitchOrGroup(int start, int n, int groups) {
-            int q = groupLength(start, n, groups);
-            if (q <= 0 || groups >= MOST_GROUPS) {
+        private void tellPiece(int start, int n, int groups) {
+            int q = bestGroup(start, n, groups);
+            if (q < 1 || groups >= MOST_GROUPS) {
                 tellStitch(stitches[start]);
                 return;
             }

@@ -9,7 +9,9 @@ public final class Promise10RowTest {
         same(due, bench, 2, new int[] {19, 0, 19, 19, 0});
         due.works(bench, "(yo,bind)x17,bind2", 17);
         same(due, bench, 3, new int[] {36, 0, 19, 17, 19});
-        int[][] wrong = {{0, 0}, {-1, 0}, {4, 0}, {Integer.MAX_VALUE, 0}, {Integer.MIN_VALUE, 0}, {1, -1}, {1, 5},
+        due.works(bench, "c4/3b,k,c1/1f,p3,c2/2f", 17);
+        same(due, bench, 4, new int[] {7, 17, 17, 17, 0});
+        int[][] wrong = {{0, 0}, {-1, 0}, {5, 0}, {Integer.MAX_VALUE, 0}, {Integer.MIN_VALUE, 0}, {1, -1}, {1, 5},
             {1, Integer.MAX_VALUE}, {1, Integer.MIN_VALUE}};
         for (int[] w : wrong) {
             due.raises("row(" + w[0] + ", " + w[1] + ")", IllegalArgumentException.class,

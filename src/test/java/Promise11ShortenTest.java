@@ -32,6 +32,8 @@ public final class Promise11ShortenTest {
         check(due, 2, "k2", 2, "(k)x2");
         check(due, 40, "rep(k)to last 0", 2, "(k)x40");
         check(due, 8, "rep(k,p)to last 0", 3, "(k,p)x4");
+        check(due, 9, "p9", 2, "(p)x9");
+        check(due, 10, "p10", 2, "(p)x10");
         check(due, 2, "cast12,k2", 4, "(cast1)x12,(k)x2");
         check(due, 18, "(k3,p3)x2,(k,p)x3", 8, "((k)x3,(p)x3)x2,(k,p)x3");
         check(due, 40, "(yo,bind)x40", 3, "(yo,bind)x40");

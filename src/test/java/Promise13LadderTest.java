@@ -3,7 +3,7 @@ public final class Promise13LadderTest {
     public static void main(String[] args) {
         Due due = new Due();
         KnitBench bench = Due.bench(3, true);
-        due.same("ladder of the cast on", bench.ladder(2), 1);
+        same(due, bench, new int[] {1, 1, 1});
         due.works(bench, "yo,k,k2tog", 3);
         due.works(bench, "cast1,k2tog,k", 3);
         // Loops 6 cast, 7 of (3 yo, 4), 8 of 5 of (1, 2).

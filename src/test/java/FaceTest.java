@@ -5,11 +5,14 @@ import java.lang.reflect.Method;
 import java.lang.reflect.Modifier;
 import java.nio.file.Files;
 import java.nio.file.Path;
+import java.util.ArrayList;
+import java.util.List;
 import java.util.Set;
 import java.util.TreeSet;
 
-/** The public face, and what of the language's rules can be seen from outside. */
+/** The public face, and what of the rules of LANGUAGE.md can be seen by a look at the program. */
 public final class FaceTest {
+    private static final Path SOURCE = Path.of("src/main/java/KnitBench.java");
     private static final String[] FACE = {
         "public KnitBench()",
         "public void KnitBench.begin(int,boolean) throws java.lang.IllegalArgumentException",
@@ -26,30 +29,35 @@ public final class FaceTest {
         "public int KnitBench.out(int) throws java.lang.IllegalArgumentException",
         "public int KnitBench.ladder(int) throws java.lang.IllegalArgumentException",
         "public int KnitBench.total(int) throws java.lang.IllegalArgumentException"};
-    private static final String[] RULED_OUT = {"import ", "->", "::", "finally", "synchronized", "assert ",
-        "System.out", "Random", "catch", "Exact(", "hashCode", "toString"};
+    // What no rule leaves: rules 2, 4, 5, 6, 10 and 13.
+    private static final String[] RULED_OUT = {"package ", "::", "finally", "synchronized", "volatile", "native ",
+        "static {", "assert ", "Exact(", "getMessage", "System.out", "System.err", "System.nanoTime",
+        "System.currentTimeMillis", "System.getenv", "Thread", "Random", "java.io", "java.nio", "java.net",
+        "java.time", "HashMap", "HashSet", "Object ", "Double.", "hashCode", "Throwable", "catch (Exception"};
+
+    private final Due due = new Due();
 
     public static void main(String[] args) throws IOException {
-        Due due = new Due();
-        Set<String> names = new TreeSet<>();
+        FaceTest test = new FaceTest();
+        test.theFaceIsTheDocuments();
+        test.theClassesInsideKeepTheRules();
+        test.nothingRuledOutStandsInTheSource();
+        test.due.end();
+    }
+
+    private void theFaceIsTheDocuments() {
         Set<String> face = new TreeSet<>();
         for (Constructor<?> made : KnitBench.class.getDeclaredConstructors()) {
             addIfSeen(face, made.getModifiers(), made.toString());
         }
         for (Method method : KnitBench.class.getDeclaredMethods()) {
             addIfSeen(face, method.getModifiers(), method.toString());
-            addIfSeen(names, method.getModifiers(), method.getName());
         }
         for (Field field : KnitBench.class.getDeclaredFields()) {
             addIfSeen(face, field.getModifiers(), field.toString());
         }
         due.same("the face", face.toString(), new TreeSet<>(Set.of(FACE)).toString());
         due.same("public final", KnitBench.class.getModifiers(), Modifier.PUBLIC | Modifier.FINAL);
-        for (Class<?> inside : KnitBench.class.getDeclaredClasses()) {
-            lookInside(due, inside, names);
-        }
-        lookAtSource(due);
-        due.end();
     }
 
     private static void addIfSeen(Set<String> seen, int modifiers, String text) {
@@ -58,23 +66,56 @@ public final class FaceTest {
         }
     }
 
-    private static void lookInside(Due due, Class<?> inside, Set<String> names) {
-        due.same(inside + " is static", Modifier.isStatic(inside.getModifiers()) ? 1 : 0, 1);
-        due.same(inside + " is public", Modifier.isPublic(inside.getModifiers()) ? 1 : 0, 0);
-        for (Method method : inside.getDeclaredMethods()) {
-            due.same(method + " bears a public name", names.contains(method.getName()) ? 1 : 0, 0);
+    private void theClassesInsideKeepTheRules() {
+        List<Class<?>> all = new ArrayList<>(List.of(KnitBench.class));
+        for (int i = 0; i < all.size(); i++) {
+            all.addAll(List.of(all.get(i).getDeclaredClasses()));
         }
-        for (Field field : inside.getDeclaredFields()) {
-            int modifiers = field.getModifiers();
-            boolean isLoose = Modifier.isStatic(modifiers) && !Modifier.isFinal(modifiers);
-            due.same(field + " is static and not final", isLoose ? 1 : 0, 0);
+        due.isTrue("some twelve classes at the most", all.size() <= 13);
+        for (Class<?> one : all) {
+            int modifiers = one.getModifiers();
+            if (one != KnitBench.class) {
+                due.isTrue(one + " is static", Modifier.isStatic(modifiers));
+                due.isTrue(one + " is not seen outside", (modifiers & (Modifier.PUBLIC | Modifier.PROTECTED)) == 0);
+            }
+            lookAtMembers(one);
         }
     }
 
-    private static void lookAtSource(Due due) throws IOException {
-        String source = Files.readString(Path.of("src/main/java/KnitBench.java"));
+    private void lookAtMembers(Class<?> one) {
+        for (Field field : one.getDeclaredFields()) {
+            int modifiers = field.getModifiers();
+            due.isTrue(field + " is final, or not static",
+                Modifier.isFinal(modifiers) || !Modifier.isStatic(modifiers));
+        }
+        for (Method method : one.getDeclaredMethods()) {
+            due.isTrue(method + " takes at most seven", method.getParameterCount() <= 7);
+            boolean bearsName = Modifier.isPrivate(method.getModifiers()) && isNameOfFace(method.getName());
+            due.isTrue(method + " bears no name of the face", !bearsName);
+        }
+    }
+
+    private static boolean isNameOfFace(String name) {
+        for (Method method : KnitBench.class.getDeclaredMethods()) {
+            if (Modifier.isPublic(method.getModifiers()) && method.getName().equals(name)) {
+                return true;
+            }
+        }
+        return false;
+    }
+
+    private void nothingRuledOutStandsInTheSource() throws IOException {
+        String source = Files.readString(SOURCE).replaceAll("(?s)/\\*.*?\\*/|//[^\n]*", "");
+        String code = source.replaceAll("\"[^\"\n]*\"", "\"\"");
         for (String word : RULED_OUT) {
-            due.same("where '" + word + "' stands", source.indexOf(word), -1);
+            due.isTrue("'" + word + "' stands nowhere", !code.contains(word));
+        }
+        for (String line : code.split("\n")) {
+            if (line.startsWith("import ")) {
+                due.isTrue(line, line.matches("import java\\.util\\.(ArrayList|List|Arrays|Iterator|NoSuchElementException);"));
+            }
+            boolean isSwitch = line.contains("case ") || line.contains("default ");
+            due.isTrue("no lambda in '" + line.trim() + "'", isSwitch || !line.contains("->"));
         }
     }
 }

@@ -1,242 +1,148 @@
-/** work: the stitches, the grammar, each fault with its place, and their order. */
+/** work: the tape, the answer, and that nothing changes by a fault. */
 public final class Promise04WorkTest {
-    private static final String DEEP = "((((k)x2)x2)x2)x2";
+    private static final String TAPE = "Works the row that the tape (used up) tells:";
+    private static final String LIVE = "how many loops are live then;";
+    private static final String FAULT = "or - (1000 * fault + place), and nothing changes.";
+
+    /** One text of each fault but the last, on three loops. */
+    private static final String[] FAULTS = {"k3,", "(((((k)x2)x2)x2)x2)x2", "rep(k2)to last 0", "yo,kfb,k3", "bind3",
+        "k,yo99,yo99,yo99,yo99,yo99,yo99,yo99", "k,p,yo", "k3,yo38"};
+    private static final int[] ANSWERS = {-1003, -2004, -3000, -4007, -5000, -6032, -7006, -8007};
 
     public static void main(String[] args) {
-        Due due = new Due();
-        stitches(due);
-        blanks(due);
-        counts(due);
-        names(due);
-        cast(due);
-        cables(due);
-        brackets(due);
-        repeats(due);
-        faultsOfTheWork(due);
-        faultsOfTheRow(due);
-        textBeforeWork(due);
-        due.end();
+        Sentences.runAll(Promise04WorkTest.class);
     }
 
-    private static void check(Due due, int loops, String text, int want) {
-        due.works(Due.bench(loops, false), text, want);
+    @Says(promise = 4, words = TAPE)
+    static void anEmptyTapeTellsNoRow(Due due) {
+        Bench bench = Bench.round(1);
+        due.same("work()", bench.work(), -1000);
+        due.same("work() once more", bench.work(), -1000);
+        due.same("rows()", bench.rows(), 0);
     }
 
-    private static void stitches(Due due) {
-        check(due, 3, "k,p,sl", 3);
-        check(due, 4, "k2tog,ssk", 2);
-        check(due, 3, "k3tog", 1);
-        check(due, 1, "kfb", 2);
-        check(due, 1, "yo,k,yo3", 5);
-        check(due, 3, "bind2,k", 1);
-        check(due, 1, "cast2,k", 3);
-        check(due, 3, "c1/2f", 3);
-        check(due, 10, "c5/5b", 10);
-        check(due, 8, "(k,p)x2,rep(ssk)to last 0", 6);
+    @Says(promise = 4, words = TAPE)
+    static void theTapeIsUsedUpByARow(Due due) {
+        Bench bench = Bench.round(1);
+        due.works(bench, "k", 1);
+        due.same("work() of the used tape", bench.work(), -1000);
+        due.same("rows()", bench.rows(), 1);
+        due.same("feed", bench.feed('k', 1), 1);
     }
 
-    private static void blanks(Due due) {
-        check(due, 4, "  k2  ,  ( p )  x2  ", 4);
-        check(due, 4, "rep(k)tolast0", 4);
-        check(due, 4, " rep ( k , p ) to  last  2 , k2tog ", 3);
-        check(due, 4, "", -1000);
-        check(due, 4, "   ", -1003);
-        check(due, 4, "k 4", -1002);
-        check(due, 4, "k2 tog,k2", -1003);
-        check(due, 4, "k f b", -1002);
-        check(due, 4, "(k)x 4", -1004);
-        check(due, 4, "re p(k)to last 0", -1002);
-        check(due, 4, "rep(k)to la st 0", -1011);
-        check(due, 4, "rep(k)to last 1 0", -1016);
-        check(due, 4, "\tk4", -1000);
-    }
-
-    private static void counts(Due due) {
-        check(due, 40, "k40", 40);
-        check(due, 9, "sl9", 9);
-        check(due, 9, "k1,p1,yo1,sl7", 10);
-        check(due, 9, "k0", -1001);
-        check(due, 9, "k01", -1001);
-        check(due, 9, "k99", -4000);
-        check(due, 9, "k100", -1003);
-        check(due, 9, "k-1", -1001);
-        check(due, 9, "ssk2", -1003);
-        check(due, 9, "k2tog2", -1005);
-        check(due, 9, "k3tog3", -1005);
-        check(due, 9, "kfb1", -1003);
-        check(due, 9, "9k", -1000);
-    }
-
-    private static void names(Due due) {
-        check(due, 2, "k2", 2);
-        check(due, 2, "k2t", -1003);
-        check(due, 2, "k2to", -1004);
-        check(due, 2, "k2tog", 1);
-        check(due, 2, "k2togx", -1005);
-        check(due, 2, "k1tog", -1002);
-        check(due, 2, "k22tog", -1003);
-        check(due, 2, "k3to,k", -1004);
-        check(due, 2, "kf", -1002);
-        check(due, 2, "kk", -1001);
-        check(due, 2, "s", -1001);
-        check(due, 2, "ss,k", -1002);
-        check(due, 2, "yk", -1001);
-        check(due, 2, "bin", -1003);
-        check(due, 2, "K2", -1000);
-        check(due, 2, "k,,k", -1002);
-        check(due, 2, ",k2", -1000);
-        check(due, 2, "k2,", -1003);
-        check(due, 2, "k2;", -1002);
-        check(due, 2, "k2\u00ff", -1002);
-    }
-
-    private static void cast(Due due) {
-        check(due, 2, " cast3,k2", 5);
-        check(due, 2, "cast", -1004);
-        check(due, 2, "cast,k2", -1004);
-        check(due, 2, "cast0,k2", -1004);
-        check(due, 2, "cast 3,k2", -1004);
-        check(due, 2, "k2,cast1", -1004);
-        check(due, 2, "cast1,cast1", -1007);
-        check(due, 2, "(cast1,k)x2", -1002);
-        check(due, 2, "rep(cast1,k)to last 0", -1005);
-        check(due, 2, "ca", -1002);
-    }
-
-    private static void cables(Due due) {
-        check(due, 2, "c1/1f", 2);
-        check(due, 2, "c0/1f", -1001);
-        check(due, 2, "c6/1f", -1001);
-        check(due, 2, "c1/0f", -1003);
-        check(due, 2, "c1/6f", -1003);
-        check(due, 2, "c1-1f", -1002);
-        check(due, 2, "c1/1", -1004);
-        check(due, 2, "c1/1g", -1004);
-        check(due, 2, "c1/1f2", -1005);
-        check(due, 2, "c 1/1f", -1001);
-        check(due, 2, "c11/1f", -1002);
-        check(due, 2, "c", -1001);
-    }
-
-    private static void brackets(Due due) {
-        check(due, 16, DEEP, 16);
-        check(due, 16, "(" + DEEP + ")x2", -2004);
-        check(due, 16, "( ( ( ( (", -2008);
-        check(due, 16, "((((k(", -1005);
-        check(due, 8, "rep((((k)x2)x2)x2)to last 0", 8);
-        check(due, 16, "rep(((((k)x2)x2)x2)x2)to last 0", -2007);
-        check(due, 4, "()", -1001);
-        check(due, 4, "(k", -1002);
-        check(due, 4, "(k,", -1003);
-        check(due, 4, "(k,)x2", -1003);
-        check(due, 4, "k4)", -1002);
-        check(due, 4, "(k)", -1003);
-        check(due, 4, "(k)4", -1003);
-        check(due, 4, "(k)x", -1004);
-        check(due, 4, "(k)x0", -1004);
-        check(due, 4, "(k)x1", -1005);
-        check(due, 4, "(k)x1 ", -1005);
-        check(due, 11, "(k)x11", 11);
-        check(due, 40, "(yo,bind)x40", 40);
-        check(due, 4, "(k)x100", -1006);
-        check(due, 4, "(k)x4k", -1005);
-        check(due, 4, "(k)tolast0", -1003);
-    }
-
-    private static void repeats(Due due) {
-        check(due, 12, "rep(k)to last 11,p11", 12);
-        check(due, 5, "rep(k2)to last 5,k5", 5);
-        check(due, 7, "rep(k,rep(k)to last 1)to last 0", -1006);
-        check(due, 7, "(rep(k)to last 1)x2", -1001);
-        check(due, 7, "rep(k)x2", -1006);
-        check(due, 7, "rep", -1003);
-        check(due, 7, "rep k", -1004);
-        check(due, 7, "rep(k)to", -1008);
-        check(due, 7, "rep(k)to last", -1013);
-        check(due, 7, "rep(k)to last 00", -1015);
-        check(due, 7, "rep(k)to last 07", -1015);
-        check(due, 7, "rep(k)to last 100", -1016);
-        check(due, 7, "rep(k)to last 99", -3000);
-        check(due, 7, "k2, rep(k2)to last 0", -3004);
-        check(due, 7, "k7,rep(yo)to last 0", -3003);
-        check(due, 7, "k7,rep(k)to last 0", 7);
-        check(due, 7, "rep(yo,(k2tog)x2)to last 3,rep(p)to last 0", 6);
-        check(due, 7, "k2,rep(((((k", -2010);
-        // Takes far more than an int holds: 42 * 99 * 99 * 99 * 99, which would wrap round.
-        String many = "k99,".repeat(41) + "k99";
-        check(due, 7, "rep((((" + many + ")x99)x99)x99)to last 0", -3000);
-        check(due, 7, "k7,rep((((" + many + ")x99)x99)x99)tolast0", 7);
-    }
-
-    private static void faultsOfTheWork(Due due) {
-        check(due, 3, "k2, k2tog", -4004);
-        check(due, 3, "((k)x2)x2", -4002);
-        check(due, 3, "k,c1/1f,sl", -4008);
-        check(due, 3, "c2/2b", -4000);
-        check(due, 3, "bind4", -5000);
-        check(due, 3, "bind2,  bind", -5008);
-        check(due, 3, "k3,bind", -4003);
-        check(due, 3, "yo,bind3", 1);
-        check(due, 3, "cast1,bind3", 1);
-        check(due, 3, "rep(bind)to last 0", -5004);
-        check(due, 3, "bind,(k2tog)x2", -4006);
-        manyLoops(due);
-    }
-
-    /** 600 loops, those cast on and the dead ones too, are the most; rows taken back do not count. */
-    private static void manyLoops(Due due) {
-        KnitBench bench = Due.bench(40, true);
-        for (int row = 1; row <= 13; row++) {
-            due.works(bench, "k40", 40);
+    @Says(promise = 4, words = TAPE)
+    static void theTapeIsUsedUpByEachFault(Due due) {
+        for (int i = 0; i < FAULTS.length; i++) {
+            Bench bench = Bench.flat(3);
+            due.works(bench, FAULTS[i], ANSWERS[i]);
+            due.same("work() of the used tape", bench.work(), -1000);
+            due.works(bench, FAULTS[i], ANSWERS[i]);
+            due.same("feed behind fault " + (i + 1), bench.feed('p', 1), 1);
+            due.same("feed", bench.feed('3', 1), 2);
+            due.same("work()", bench.work(), 3);
         }
-        due.same("total(0)", bench.total(0), 560);
-        due.works(bench, "k38,kfb,kfb", -6008);
-        due.works(bench, "k39,yo,kfb", -6007);
-        due.works(bench, "k39,yo,(k,yo)x2", -6008);
-        due.works(bench, "k36,(yo)x5,k4", -6005);
-        due.works(bench, "k36,(yo)x4,k4", -6011);
-        due.works(bench, "yo2,k35,c3/2f", -6008);
-        due.works(bench, "yo99,k41", -6000);
-        due.works(bench, "k40", 40);
-        due.works(bench, "k2tog,k", -6000);
-        due.works(bench, "bind39,k", -6007);
-        due.works(bench, "bind40", -5000);
-        due.works(bench, "(rep", -1001);
-        due.same("unravel(1)", bench.unravel(1), 13);
-        due.works(bench, "(bind,yo)x20,p20", 40);
-        due.works(bench, "bind40,k", -5000);
-        due.works(bench, "bind38,c1/1f", -6007);
-    }
-
-    private static void faultsOfTheRow(Due due) {
-        check(due, 3, "k2 ", -7003);
-        check(due, 3, "yo", -7002);
-        check(due, 40, "yo,k40", -8006);
-        check(due, 40, "yo,k39", -7006);
-        KnitBench bench = Due.bench(1, false);
-        for (int row = 1; row <= 30; row++) {
-            due.works(bench, "k", 1);
-        }
+        Bench bench = Bench.flat(1);
+        bench.workAll("k", 30);
         due.works(bench, "k", -9001);
-        due.works(bench, "yo40,k", -8006);
-        due.works(bench, "yo41", -7004);
-        due.works(bench, "k2", -4000);
-        due.works(bench, "k2,", -1003);
-        due.same("rows()", bench.rows(), 30);
-        bench.unravel(1);
-        due.works(bench, "kfb", 2);
+        due.same("feed behind fault 9", bench.feed('k', 1), 1);
     }
 
-    private static void textBeforeWork(Due due) {
-        check(due, 3, "k9,x", -1003);
-        check(due, 3, "rep(yo)to last 0,(((((", -2021);
-        check(due, 3, "k9,((((( x", -2007);
-        KnitBench bench = Due.bench(2, true);
-        due.works(bench, "kfb,k2", -4004);
-        due.same("needle behind a fault", Due.needle(bench), "0 1");
-        due.same("total(0) behind a fault", bench.total(0), 2);
-        due.same("rows() behind a fault", bench.rows(), 0);
-        due.works(bench, "k,k", 2);
-        due.same("needle", Due.needle(bench), "2 3");
+    @Says(promise = 4, words = LIVE)
+    static void oneLoopIsTheFewest(Due due) {
+        due.row(1, "k", 1);
+        due.row(3, "k3tog", 1);
+        due.row(40, "k,bind39", 1);
+        due.row(40, "bind39,k", 1);
+    }
+
+    @Says(promise = 4, words = LIVE)
+    static void fortyLoopsAreTheMost(Due due) {
+        due.row(40, "k40", 40);
+        due.row(1, "yo39,k", 40);
+        due.row(20, "rep(kfb)to last 0", 40);
+        due.row(40, "cast40,bind40", 40);
+    }
+
+    @Says(promise = 4, words = LIVE)
+    static void onlyTheLoopsOfThisRowAreLive(Due due) {
+        Bench bench = Bench.flat(5);
+        due.works(bench, "k2tog,yo,bind2,kfb", 4);
+        due.same("total(1)", bench.total(1), 4);
+        due.works(bench, "k,bind,k2tog", 2);
+        due.same("total(1)", bench.total(1), 2);
+        due.same("needle", bench.needle(), "10 9");
+    }
+
+    @Says(promise = 4, words = FAULT)
+    static void theFirstPlaceIsZero(Due due) {
+        due.row(1, "", -1000);
+        due.row(1, "x", -1000);
+        due.row(1, "rep(k)to last 2", -3000);
+        due.row(1, "k2", -4000);
+        due.row(1, "bind", -5000);
+        due.row(1, "(((((", -2004);
+    }
+
+    @Says(promise = 4, words = FAULT)
+    static void theLastPlaceIsTwoHundred(Due due) {
+        String blanks = " ".repeat(194);
+        due.row(1, "     " + blanks + "x", -1199);
+        due.row(1, " ".repeat(200), -1200);
+        due.row(1, "k    " + blanks + ",", -1200);
+        due.row(1, "((((k" + blanks + "(", -1199);
+        due.row(1, "((((" + blanks + " (", -2199);
+        due.row(1, "k,   " + blanks + "k", -4199);
+        due.row(1, "k,   " + blanks.substring(3) + "bind", -4196);
+        due.row(2, "bind," + blanks.substring(3) + "bind", -5196);
+        due.row(2, "k    " + blanks + " ", -7200);
+        due.row(40, "yo,k40" + blanks, -8200);
+        Bench bench = Bench.flat(1);
+        bench.workAll("k", 30);
+        due.works(bench, "k    " + blanks + " ", -9200);
+    }
+
+    @Says(promise = 4, words = FAULT)
+    static void eachFaultIsToldByItsNumber(Due due) {
+        for (int i = 0; i < FAULTS.length; i++) {
+            due.row(3, FAULTS[i], ANSWERS[i]);
+        }
+        Bench bench = Bench.round(3);
+        bench.workAll("k3", 30);
+        due.works(bench, "sl3 ", -9004);
+    }
+
+    @Says(promise = 4, words = FAULT)
+    static void nothingChangesByAFault(Due due) {
+        for (int i = 0; i < FAULTS.length; i++) {
+            for (boolean round : new boolean[] {false, true}) {
+                Bench bench = Bench.of(2, round);
+                due.works(bench, "kfb,p", 3);
+                bench.shorten(1);
+                String before = bench.state();
+                due.works(bench, FAULTS[i], ANSWERS[i]);
+                due.same("state behind fault " + (i + 1), bench.state(), before);
+                due.works(bench, "c1/1f,bind", 2);
+                due.same("needle of the next row", bench.needle(), round ? "5 6" : "6 5");
+                due.same("parents of loop 5", bench.parents(5), "3");
+                due.same("parents of loop 6", bench.parents(6), round ? "2" : "4");
+                due.same("numbers of the next row", bench.numbers(2), "2 1 3 2 1");
+            }
+        }
+    }
+
+    @Says(promise = 4, words = FAULT)
+    static void nothingChangesByARowTooMany(Due due) {
+        Bench bench = Bench.flat(2);
+        bench.workAll("k,p", 30);
+        bench.shorten(30);
+        due.works(bench, "bind,k", -9006);
+        due.same("rows()", bench.rows(), 30);
+        due.same("needle", bench.needle(), "61 60");
+        due.same("totals", bench.totals(), "62 2 60 0");
+        due.same("chart", bench.chart(30), "0 1");
+        due.same("loop(61, 1)", bench.loop(61, 1), 0);
+        due.refuses("loop(62, 0)", () -> bench.loop(62, 0));
+        due.refuses("row(31, 0)", () -> bench.row(31, 0));
+        due.same("out", bench.out(), "k,p");
     }
 }

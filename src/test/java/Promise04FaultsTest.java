@@ -145,6 +145,11 @@ public final class Promise04FaultsTest {
         due.row(7, "rep(c2/1f,yo)to last 1,k", 9);
         due.row(7, "rep((k,ssk)x2,yo)to last 1,p", 6);
         due.row(7, "rep((k,ssk)x2,yo)to last 2,p2", -3000);
+        due.row(7, "rep(k,(p)x2)to last 1,k", 7);
+        due.row(7, "rep(k,(p)x2)to last 2,k2", -3000);
+        due.row(7, "rep((k)x2,(p)x2,k2)to last 1,k", 7);
+        due.row(40, "rep(k,((p,sl)x2,k)x2,(k2tog)x3)to last 6,k6", 34);
+        due.row(40, "rep(k,((p,sl)x2,k)x2,(k2tog)x3)to last 7,k7", -3000);
         due.row(7, "rep(bind,kfb)to last 1,k", 7);
     }
 
@@ -182,6 +187,18 @@ public final class Promise04FaultsTest {
         due.row(7, "rep((((" + many + ")x99)x99)x99)to last 0", -3000);
         due.row(7, "k7,rep((((" + many + ")x99)x99)x99)tolast0", 7);
         due.row(40, "k7,rep((((" + many + ")x99)x99)x99)tolast0", -3003);
+    }
+
+    /** Each repeat counts the loops of its own row anew. */
+    @Says(promise = 4, words = REPEAT)
+    static void repeatsDoNotCountForOneAnother(Due due) {
+        due.row(11, "k2,rep(k3)to last 3,rep(p)to last 0", 11);
+        due.row(11, "(k)x2,rep((p)x3)to last 6,rep(sl2)to last 2,rep(yo,k)to last 0", 13);
+        Bench bench = Bench.round(6);
+        due.works(bench, "rep(k4)to last 0", -3000);
+        due.works(bench, "rep(k2)to last 0", 6);
+        due.works(bench, "(k2)x3,rep(k5)to last 0", 6);
+        due.works(bench, "rep(p3)to last 0", 6);
     }
 
     @Says(promise = 4, words = REPEAT)

@@ -130,6 +130,24 @@ public final class Promise04WorkTest {
         }
     }
 
+    /** Wherever a text or the work breaks off, the next text is read and worked from its beginning. */
+    @Says(promise = 4, words = FAULT)
+    static void noBracketStaysOpenBehindAFault(Due due) {
+        String[] broken = {"((((k", "((((k)x2)x2", "rep(((k,", "(((((", "((((k9)x2)x2)x2)x2", "k,((((bind9)x2)x2)x2)x2",
+            "rep(((yo,bind)x2)x9)tolast0", "((((yo99)x9)x9)x9)x9", "rep((k)x2)to last 9", "cast9,((k)x2,("};
+        String[] right = {"((((k)x2)x2)x2)x2", "rep((((k)x2)x2)x2)to last 0", "k16", "cast4,(k)x16"};
+        for (String wrong : broken) {
+            for (String text : right) {
+                Bench bench = Bench.round(16);
+                for (int i = 0; i < 6; i++) {
+                    due.same("sign of work of '" + wrong + "'", Integer.signum(bench.work(wrong)), -1);
+                }
+                due.works(bench, text, text.startsWith("cast4") ? 20 : 16);
+                due.same("row(1, 2)", bench.row(1, 2), 16);
+            }
+        }
+    }
+
     @Says(promise = 4, words = FAULT)
     static void nothingChangesByARowTooMany(Due due) {
         Bench bench = Bench.flat(2);

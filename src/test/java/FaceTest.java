@@ -29,6 +29,8 @@ public final class FaceTest {
         "public int KnitBench.out(int) throws java.lang.IllegalArgumentException",
         "public int KnitBench.ladder(int) throws java.lang.IllegalArgumentException",
         "public int KnitBench.total(int) throws java.lang.IllegalArgumentException"};
+    private static final String IMPORT =
+        "import java\\.util\\.(ArrayList|List|Arrays|Iterator|NoSuchElementException);";
     // What no rule leaves: rules 2, 4, 5, 6, 10 and 13.
     private static final String[] RULED_OUT = {"package ", "::", "finally", "synchronized", "volatile", "native ",
         "static {", "assert ", "Exact(", "getMessage", "System.out", "System.err", "System.nanoTime",
@@ -112,7 +114,7 @@ public final class FaceTest {
         }
         for (String line : code.split("\n")) {
             if (line.startsWith("import ")) {
-                due.isTrue(line, line.matches("import java\\.util\\.(ArrayList|List|Arrays|Iterator|NoSuchElementException);"));
+                due.isTrue(line, line.matches(IMPORT));
             }
             boolean isSwitch = line.contains("case ") || line.contains("default ");
             due.isTrue("no lambda in '" + line.trim() + "'", isSwitch || !line.contains("->"));

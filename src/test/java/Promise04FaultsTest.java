@@ -38,8 +38,8 @@ public final class Promise04FaultsTest {
 
     @Says(promise = 4, words = WRONG)
     static void whatIsMissingIsMissingAtTheLength(Due due) {
-        String[] begun = {"", "  ", "k,", "k , ", "s", "y", "b", "c", "ca", "cast", "c5", "c5/", "c5/5", "(", "( ", "(k",
-            "(k ", "(k)", "(k) ", "(k)x", "(k)x1", "r", "re", "rep", "rep ", "rep(", "rep(k", "rep(k)", "rep(k)t",
+        String[] begun = {"", "  ", "k,", "k , ", "s", "y", "b", "c", "ca", "cast", "c5", "c5/", "c5/5", "(", "( ",
+            "(k", "(k ", "(k)", "(k) ", "(k)x", "(k)x1", "r", "re", "rep", "rep ", "rep(", "rep(k", "rep(k)", "rep(k)t",
             "rep(k)to", "rep(k)to ", "rep(k)tol", "rep(k)tolast", "rep(k)tolast ", "k2t", "k2to", "k3t", "kf", "ss"};
         for (String text : begun) {
             due.row(1, text, -1000 - text.length());

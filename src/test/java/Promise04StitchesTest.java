@@ -1,7 +1,8 @@
 /** work: the stitches, with the loops they take and make, and the made loops' parents. */
 public final class Promise04StitchesTest {
-    private static final String STITCHES = "STITCHES, with the loops they take and make: 0 k and 1 p (1, 1), 2 sl (1, 1),"
-        + " 3 k2tog and 4 ssk (2, 1), 5 k3tog (3, 1), 6 kfb (1, 2), 7 yo (0, 1), 8 bind (1, 0), 9 cast (0, 1),";
+    private static final String STITCHES = "STITCHES, with the loops they take and make: 0 k and 1 p (1, 1),"
+        + " 2 sl (1, 1), 3 k2tog and 4 ssk (2, 1), 5 k3tog (3, 1), 6 kfb (1, 2), 7 yo (0, 1), 8 bind (1, 0),"
+        + " 9 cast (0, 1),";
     private static final String CABLE = "10 a CABLE in front, 11 behind: it takes a + b loops and makes as many:"
         + " first of the b last ones of these, then of the a first ones, one of each.";
     private static final String PARENTS = "A made loop's PARENTS are the loops that its stitch took"

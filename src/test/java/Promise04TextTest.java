@@ -33,8 +33,8 @@ public final class Promise04TextTest {
     @Says(promise = 4, words = BLANKS)
     static void theyMayStandBetweenAllOfThem(Due due) {
         due.row(8, " k , p2 , ( sl , yo ) x2 , rep ( k2tog ) to last 1 , bind ", 8);
-        due.row(8, "   k   ,   p2   ,   (   sl   ,   yo   )   x2   ,   rep   (   k2tog   )   to   last   1   ,   bind   ",
-            8);
+        due.row(8, "   k   ,   p2   ,   (   sl   ,   yo   )   x2   ,"
+            + "   rep   (   k2tog   )   to   last   1   ,   bind   ", 8);
         due.row(8, " cast2 , c1/1f , rep ( ( k , p ) x2 ) to last 2 , ssk ", 9);
         due.row(3, "k,p,sl ", 3);
         due.row(3, " k,p,sl", 3);

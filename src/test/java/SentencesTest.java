@@ -9,7 +9,7 @@ import java.util.List;
 
 /**
  * Holds the tests against the document: what a test quotes must stand there, in its promise or in the
- * terms, and of these no sentence may be left that no test quotes.
+ * terms, and no sentence of these, or of what it is, may be left that no test quotes.
  */
 public final class SentencesTest {
     private static final Path DOCUMENT = Path.of("../shared/DOC.md");
@@ -59,6 +59,7 @@ public final class SentencesTest {
             // The code in front of a promise's words is the face, which FaceTest looks at.
             same("promise " + promise, plain("Promise " + promise + ": ").replaceFirst("^`[^`]*`:", ""));
         }
+        same("what it is", plain("What it is"));
         same("the terms", plain("Terms"));
     }
 

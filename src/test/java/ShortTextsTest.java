@@ -1,8 +1,8 @@
 import java.util.List;
 
 /**
- * All short texts against the grammar, and all short rows against the model: where the random runs of
- * ModelTest go far, these leave nothing out.
+ * All short texts, each up to its first wrong byte, against the grammar, and all short rows against the
+ * model: where the random runs of ModelTest go far, these leave nothing out near by.
  */
 public final class ShortTextsTest {
     // Each sign that stands somewhere in a right text.
@@ -33,7 +33,7 @@ public final class ShortTextsTest {
         test.due.end();
     }
 
-    /** Behind a byte with which a text can't be right nothing new can come. */
+    /** What stands behind a wrong byte is left to ModelTest: there the texts are too many. */
     private void readAllFrom(String text, int longest) {
         int fault = read(text);
         boolean isHopeless = fault != 0 && fault != -1000 - text.length();
